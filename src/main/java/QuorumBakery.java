@@ -590,7 +590,7 @@ public final class QuorumBakery {
         final int[] terms = new int[BAKERIES];
         final int[] roles = new int[BAKERIES];
         final int[] votes = new int[BAKERIES];
-        /** Of a candidate: the set of those whose votes it was given in its term. */
+        /** Of a candidate alone: the set of those whose votes it was given in its term. */
         final int[] supporters = new int[BAKERIES];
         final int[][] logs = new int[BAKERIES][MAX_LOG];
         final int[] lengths = new int[BAKERIES];
@@ -632,7 +632,6 @@ public final class QuorumBakery {
             terms[bakery] = newTerm;
             roles[bakery] = FOLLOWER;
             votes[bakery] = NONE;
-            supporters[bakery] = 0;
         }
 
         boolean askForVote(int voter, int candidate) {

@@ -208,6 +208,11 @@ public final class BakingTest {
                 addLot() = 0; deliver(0, 0, 3) = 3; book(0, 0, 0) = 0; book(0, 1, 0) = 0; pass(1) = 1; pass(1) = 0
                 missed(0) = 1; store(0) = 1; deliver(0, 0, 1) = 2; book(0, 2, 0) = 0; pass(1) = 1; store(0) = 0
                 """);
+        // A full store.
+        Runs.promise(28, HELD_0, """
+                addLot() = 0; addLot() = 1; 3 * deliver(0, 0, 50); deliver(0, 0, 49) = 199; deliver(0, 1, 1) = 200; book(0, 0, 0) = 0
+                pass(1) = 1; store(0) = 198; deliver(0, 0, 2) = 200; condemn(0) = 0; store(0) = 1; deliver(0, 1, 50) = 51
+                """);
         // Stopped, then not any more.
         Runs.promise(28, Scenes.RIVALS, FLOUR_0, "book(0, 0, 0) = 0; book(0, 1, 0) = 0; book(0, 2, 0) = 0; pass(1) = 1",
                 Scenes.OVERTHROW, "pass(1) = 0; missed(0) = 1; store(0) = 18", Scenes.HELD_AGAIN, "pass(1) = 1; store(0) = 16");

@@ -24,6 +24,7 @@ public final class RecallOfficeTest {
         tracedAt();
         recallsOfVersions();
         recallsOfLots();
+        recallsOfAllBatches();
         recallOf();
         calledBack();
         why();
@@ -98,6 +99,13 @@ public final class RecallOfficeTest {
                 propose(1, 0, 1, 1) = throws.IllegalStateException; vote(0, 0) = throws.IllegalArgumentException
                 barredAnew(0) = 0; part(0) = 0; tell(0, 4) = 1; barredAnew(0) = 0; role(0) = 2; versions() = 1; holders(0) = 23
                 """);
+        // A leader of a lesser term than the one that it tells puts nothing anywhere, done once more, too.
+        Runs.promise(36, BATCHES_OF_RIVALS, "tell(4, 1) = -1; barredAnew(0) = 0; barredAnew(0) = 0; barred(0) = 0");
+        // Each time it begins with a new object's terms.
+        Runs.promise(36, Scenes.LEADER_0, Scenes.FLOUR_0, """
+                propose(0, 0, 1, 1) = 0; tell(0, 3) = 1; tell(0, 4) = 1; book(0, 0, 0) = 0; pass(1) = 1
+                9 * stand(3); 9 * stand(4); barredAnew(0) = 0; barredAnew(0) = 0; barredAnew(0) = 0
+                """);
         // As many calls as an object takes.
         Runs.promise(36, BATCHES_OF_RIVALS, "sell(0, 4) = 6; 230 * part(3) = 6; 210 * part(0) = 0", Scenes.OVERTHROW,
                 "barredAnew(0) = 1", Scenes.HELD_AGAIN, "barredAnew(0) = 0; barred(0) = 0");
@@ -170,6 +178,8 @@ public final class RecallOfficeTest {
                 tracedAt(1, 2147483647) = throws.IndexOutOfBoundsException
                 tracedAt(3, 0) = throws.IndexOutOfBoundsException
                 tracedAt(-1, 0) = throws.IndexOutOfBoundsException
+                tracedAt(65, 0) = throws.IndexOutOfBoundsException
+                tracedAt(-63, 0) = throws.IndexOutOfBoundsException
                 condemn(1) = 0; tracedAt(1, 2) = 2
                 """);
     }
@@ -212,6 +222,15 @@ public final class RecallOfficeTest {
                 2 * addLot(); deliver(0, 0, 1) = 1; deliver(0, 1, 1) = 2; book(0, 0, 0) = 0; pass(1) = 1; sell(0, 5) = 5
                 condemn(1) = 5; condemn(0) = 0; recalls() = 1; barred(0) = 2; left(0) = 5
                 """);
+    }
+
+    /** As many batches as there can be; the last one is concerned, too. */
+    private static void recallsOfAllBatches() {
+        String batches = Scenes.RIVALS.replace("(0, 0, 2, 10)", "(0, 0, 1, 10)") + Scenes.FLOUR_0 + "deliver(0, 0, 50) = 70\n"
+                + Scenes.books(0, 49, 0) + "pass(50) = 50\n" + Scenes.books(50, 59, 0) + "pass(10) = 10; sell(59, 3) = 7\n";
+        Runs.promise(41, batches, "sell(0, 1) = 9; tracedAt(0, 59) = 59; tracedAt(0, 60) = throws.IndexOutOfBoundsException",
+                "condemn(0) = 4; recalls() = 2; recallOf(1) = 59; calledBack(1) = 3");
+        Runs.promise(41, batches, Scenes.OVERTHROW, "recalls() = 1; recallOf(0) = 59; calledBack(0) = 3; onSale() = 0");
     }
 
     private static void recallOf() {

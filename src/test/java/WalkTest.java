@@ -6,6 +6,9 @@ public final class WalkTest {
     private static final int WALKS = 2000;
     private static final int CALLS = 512;
 
+    private static final List<String> DUE = List.of("throws.IndexOutOfBoundsException", "throws.IllegalArgumentException",
+            "throws.IllegalStateException");
+
     private static int wrong = 0;
     private static int unheldRecalls = 0;
     private static int flourRecalls = 0;
@@ -16,6 +19,9 @@ public final class WalkTest {
     public static void main(String[] args) {
         for (int seed = 0; seed < WALKS && wrong == 0; seed++) {
             walk(seed);
+        }
+        for (int seed = 0; seed < 20 && wrong == 0; seed++) {
+            walkOn(seed);
         }
         System.out.println("in " + WALKS + " walks: " + unheldRecalls + " recalls for UNHELD, " + flourRecalls + " for FLOUR, "
                 + doubleReasons + " batches barred for both, " + heldAgain + " batches on sale after a recall, "
@@ -50,6 +56,23 @@ public final class WalkTest {
             }
         }
         countWhatHappened(model);
+    }
+
+    /** What an object answers to so many calls is free, but the machine itself must not throw in it. */
+    private static void walkOn(int seed) {
+        Walk walk = new Walk(seed);
+        QuorumBakery x = new QuorumBakery();
+        Model model = new Model();
+        for (int i = 0; i < 8 * CALLS; i++) {
+            String call = walk.next(model);
+            Calls.answer(model, call);
+            String got = Calls.answer(x, call);
+            if (got.startsWith("throws.") && !DUE.contains(got)) {
+                wrong++;
+                System.out.println("walk on " + seed + ", call " + i + ": " + call + " " + got);
+                return;
+            }
+        }
     }
 
     private static void countWhatHappened(Model model) {
