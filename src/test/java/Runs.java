@@ -7,8 +7,8 @@ import java.util.TreeSet;
  * with "N * " ahead of a row that comes N times; an answer may be throws. and the name of an exception. A row without
  * an answer must not throw.
  *
- * A run is held against the model, too, at its end with all that can be asked; and for each row that throws an
- * exception a second object that is spared this call must answer the same afterwards.
+ * A run is held against the model, too, in each row and at its end with all that can be asked; and for each row that
+ * throws an exception a second object that is spared this call must answer the same afterwards.
  */
 final class Runs {
     private static final int CALLS = 512;
@@ -26,22 +26,61 @@ final class Runs {
 
     /** A test of the promise of this number. */
     static void promise(int number, String... parts) {
+        run(number, "promise " + number, parts);
+    }
+
+    /** A test of a boundary case that a sentence of the document names, for the promise of this number. */
+    static void boundary(int number, String sentence, String... parts) {
+        run(number, "promise " + number + ", \"" + sentence + "\"", parts);
+    }
+
+    /** The same, with calls between the two parts, so that the last row is the last call that an object is used for. */
+    static void toTheEnd(int number, String sentence, String before, String last) {
+        int between = CALLS - parse(before).size() - parse(last).size();
+        boundary(number, sentence, before, between - 1 + " * part(3)", "part(0)", last);
+    }
+
+    /**
+     * A test of the range of one argument, from low to high: after the scene, the call with ? in place of the argument is
+     * refused for each value outside, and then the rows of inside, which have low and high in them, are answered.
+     */
+    static void range(int number, String what, int low, int high, String call, String exception, String scene, String inside) {
+        StringBuilder rows = new StringBuilder(scene).append('\n');
+        for (int value : outside(low, high)) {
+            rows.append(call.replace("?", String.valueOf(value))).append(" = throws.").append(exception).append('\n');
+        }
+        boundary(number, what + ": " + low + " to " + high, rows.toString(), inside);
+    }
+
+    /** Just outside, the ends of the int, and those that a shift by 32 or 64 would take for one inside. */
+    private static TreeSet<Integer> outside(int low, int high) {
+        TreeSet<Integer> values = new TreeSet<>(List.of(low - 1, high + 1, Integer.MIN_VALUE, Integer.MAX_VALUE));
+        for (int wrap : new int[] {32, 64, 128, 256, 65536}) {
+            values.add(low - wrap);
+            values.add(high + wrap);
+        }
+        return values;
+    }
+
+    private static void run(int number, String what, String... parts) {
         promises.add(number);
         runs++;
-        String name = "promise " + number + ", run " + runs;
+        String name = what + ", run " + runs;
         List<Row> rows = parse(String.join("\n", parts));
         if (rows.size() > CALLS) {
             fail(name, "has " + rows.size() + " calls, too many");
             return;
         }
         QuorumBakery x = new QuorumBakery();
+        Model model = new Model();
         for (int i = 0; i < rows.size(); i++) {
             Row row = rows.get(i);
             String got = Calls.answer(x, row.call());
-            String want = row.answer();
-            if (want.isEmpty() ? got.startsWith("throws.") : !got.equals(want)) {
-                fail(name, "call " + (i + 1) + ", " + row.call() + " answered " + got
-                        + (want.isEmpty() ? "" : ", due is " + want));
+            String modelled = Calls.answer(model, row.call());
+            String want = row.answer().isEmpty() ? modelled : row.answer();
+            if (!got.equals(want) || !modelled.equals(want) || row.answer().isEmpty() && got.startsWith("throws.")) {
+                fail(name, "call " + (i + 1) + ", " + row.call() + " answered " + got + ", due is " + want
+                        + ", and the model's is " + modelled);
                 return;
             }
             if (got.startsWith("throws.") && !isRepeated(rows, i)) {
